@@ -388,7 +388,7 @@ public final class DivisionHall {
         }
 
         int ofBloc(int b) {
-            return inside(b, BLOCS) ? membersOf[b] : 0;
+            return b >= 0 && b < BLOCS ? membersOf[b] : 0;
         }
 
         int blocOf(int m) {
@@ -696,6 +696,9 @@ public final class DivisionHall {
                 emit(name, 0);
                 state = BEHIND_UNIT;
             }
+            if (state == BEHIND_UNIT && compared && !Sign.isSum(sign)) {
+                state = BEHIND_CLAUSE;
+            }
             switch (state) {
                 case CLAUSE: takeClause(); break;
                 case UNIT: takeUnit(); break;
@@ -763,8 +766,6 @@ public final class DivisionHall {
                 release(Sign.rank(sign));
                 push();
                 state = UNIT;
-            } else if (compared) {
-                takeBehindClause();
             } else if (Sign.isComparison(sign)) {
                 release(Sign.rank(sign));
                 push();
@@ -1070,24 +1071,19 @@ public final class DivisionHall {
     }
 
     /**
-     * Seeks trades. Of two sets each member is in none, one or both: read as a figure to the base
+     * Seeks trades. Of two sets each member is in none, one or both: read as figures to the base
      * of three, these counts are the sum of the two sets' own figures, so that two pairs can be
      * traded if their sums are the same.
      */
     private static final class Trader {
         private static final int SUMS = 59049;
 
-        private final int[] figure = new int[SETS];
+        /** Those that carry, then those that do not, by their numbers; and their figures. */
         private final int[] sets = new int[SETS];
+        private final int[] figures = new int[SETS];
         private final int[] sums = new int[(SUMS >> 5) + 1];
         private int carrying;
         private int count;
-
-        Trader() {
-            for (int set = 1; set < SETS; set++) {
-                figure[set] = figure[set >> 1] * 3 + (set & 1);
-            }
-        }
 
         void seek(Table table) {
             table.tradeSought = true;
@@ -1096,32 +1092,37 @@ public final class DivisionHall {
             list(table, true);
             carrying = count;
             list(table, false);
-            if (carrying < 2 || count - carrying < 2) {
-                return;
+            if (carrying > 1 && count - carrying > 1) {
+                markSums();
+                findPair(table);
             }
-            markSums();
-            findPair(table);
         }
 
         private void list(Table table, boolean does) {
             for (int set = 0; set <= table.in; set++) {
                 if (isWithin(set, table.in) && table.at(set) == does && inside(count, SETS)) {
                     sets[count] = set;
+                    figures[count] = figureOf(set);
                     count++;
                 }
             }
         }
 
-        private int figureAt(int i) {
-            return inside(i, SETS) && inside(sets[i], SETS) ? figure[sets[i]] : 0;
+        private static int figureOf(int set) {
+            int figure = 0;
+            for (int m = MEMBERS - 1; m >= 0; m--) {
+                figure = figure * 3 + (set >> m & 1);
+            }
+            return figure;
         }
 
+        /** Notes which sums two sets have that do not carry. */
         private void markSums() {
             Arrays.fill(sums, 0);
-            for (int i = carrying; i < count; i++) {
-                int first = figureAt(i);
-                for (int j = i + 1; j < count; j++) {
-                    int sum = first + figureAt(j);
+            for (int i = carrying; i < count && i < SETS; i++) {
+                int first = figures[i];
+                for (int j = i + 1; j < count && j < SETS; j++) {
+                    int sum = first + figures[j];
                     if (inside(sum, SUMS)) {
                         sums[sum >> 5] |= 1 << (sum & 31);
                     }
@@ -1131,9 +1132,9 @@ public final class DivisionHall {
 
         private void findPair(Table table) {
             for (int i = 0; i < carrying && i < SETS; i++) {
-                int first = figureAt(i);
+                int first = figures[i];
                 for (int j = i + 1; j < carrying && j < SETS; j++) {
-                    int sum = first + figureAt(j);
+                    int sum = first + figures[j];
                     if (inside(sum, SUMS) && has(sums[sum >> 5], sum & 31)) {
                         findOthers(table, sets[i], sets[j]);
                         return;

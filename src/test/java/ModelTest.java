@@ -149,7 +149,7 @@ public final class ModelTest {
         break;
       }
       case 8:
-        what = about(model.howManyIn() > 7 ? 3 : 5);
+        what = about(model.howManyIn() > 8 ? 3 : 5);
         due("power(" + r + ", " + m + ", " + what + ")", hall.power(r, m, what), model.power(r, m, what));
         break;
       case 9: what = about(2); due("odd(" + r + ", " + what + ")", hall.odd(r, what), model.odd(r, what)); break;
@@ -159,7 +159,7 @@ public final class ModelTest {
         break;
       }
       case 11:
-        if (model.howManyIn() < 7) due("trade(" + r + ", " + what + ")", hall.trade(r, what), model.trade(r, what));
+        if (model.howManyIn() < 8) due("trade(" + r + ", " + what + ")", hall.trade(r, what), model.trade(r, what));
         break;
       case 12: {
         int a = about(1000), b = chance(50) ? about(1000) : Math.min(999, Math.max(0, a) + below(40)), k = about(1000);

@@ -219,7 +219,7 @@ public final class PromiseTest {
     due("nothing carries", h.leasts(0, 0), 0);
     StringBuilder longest = new StringBuilder("1");
     for (int i = 0; i < 198; i++) longest.append("+1");
-    rule(h, 3, longest + "=2;".substring(0, 1) + "1;");
+    rule(h, 3, longest + "=1;");
     due("199 is not 1", h.carries(3, 0), 0);
     due("length", longest.length() + 3, 400);
   }
@@ -297,6 +297,13 @@ public final class PromiseTest {
     faulty(h, "HEADS>1;", 1, 0);
     faulty(h, "1<headsX;", 1, 2);
     faulty(h, "andand", 1, 0);
+    faulty(h, "headsz>1;", 1, 0);
+    faulty(h, "headsA>1;", 1, 0);
+    faulty(h, "headsZ>1;", 1, 0);
+    faulty(h, "heads[>1;", 1, 5);
+    StringBuilder longest = new StringBuilder("1=1");
+    for (int i = 0; i < 198; i++) longest.append("+1");
+    faulty(h, longest + "+", 1, 400);
     faulty(h, "heads1>1;", 1, 5);
     faulty(h, "heads\t>1;", 1, 5);
     faulty(h, "heads>=1;", 1, 6);
@@ -511,6 +518,12 @@ public final class PromiseTest {
     for (int i = 0; i < 200; i++) busy.shift(0, 5 * i, i % 2, 0, 0);
     rule(busy, 0, "weight>0;");
     due("200 shifts", busy.days(0, 1, 0, 999, 0), 500);
+    DivisionHall busier = new DivisionHall();
+    busier.member();
+    for (int i = 0; i < 200; i++) busier.shift(0, 1 + 5 * i, i % 2, 0, 0);
+    rule(busier, 0, "weight>0;");
+    due("200 shifts, none from day 0", busier.days(0, 1, 0, 999, 0), 499);
+    due("200 shifts, one day each", busier.days(0, 1, 0, 6, 0), 1);
   }
 
   private static void wish() {
