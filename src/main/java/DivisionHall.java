@@ -134,6 +134,8 @@ public final class DivisionHall {
 
     public boolean rule(int r) {
         if (!inside(r, RULES)) {
+            // The fault is that of the latest rule() of 0 .. 3, so the tape is not read here.
+            reader.length = 0;
             return false;
         }
         reader.read();

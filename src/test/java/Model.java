@@ -253,9 +253,9 @@ final class Model {
   }
 
   boolean rule(int r) {
-    if (!range(r, 0, 3)) return false;
     String text = tape;
     tape = "";
+    if (!range(r, 0, 3)) return false;
     fault = 0;
     place = -1;
     try {

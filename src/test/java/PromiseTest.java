@@ -199,10 +199,15 @@ public final class PromiseTest {
     DivisionHall h = hall(4, 3, 2);
     rule(h, 0, "has 0;");
     due("carries", h.carries(0, 1), 1);
+    for (int r : new int[] {4, -1, Integer.MIN_VALUE, Integer.MAX_VALUE}) {
+      tape(h, "has 1;");
+      due("none such", h.rule(r), false);
+      due("the tape is empty", h.end(1), false);
+      due("feed behind an empty tape", h.feed(0, 0, 0, 0, 0), 20);
+      due("end", h.end(0), true);
+    }
+    due("the rule stays", h.carries(0, 1), 1);
     tape(h, "has 1;");
-    due("none such", h.rule(4), false);
-    due("none such", h.rule(-1), false);
-    due("the tape stays", h.end(6), true);
     due("rule", h.rule(1), true);
     due("the tape is empty", h.end(1), false);
     due("carries", h.carries(1, 2), 1);
@@ -211,7 +216,13 @@ public final class PromiseTest {
     due("a fault", h.rule(0), false);
     due("the tape is empty", h.end(1), false);
     due("the rule stays", h.carries(0, 1), 1);
+    tape(h, "has 1;");
     due("none such", h.rule(9), false);
+    due("the fault of 0 .. 3", h.fault(0), 1);
+    due("the fault of 0 .. 3", h.fault(1), 4);
+    tape(h, "has 12;");
+    due("none such", h.rule(-1), false);
+    due("the fault of 0 .. 3", h.fault(0), 1);
     due("the fault of 0 .. 3", h.fault(1), 4);
     due("empty", h.rule(0), true);
     due("fault", h.fault(0), 0);
