@@ -587,7 +587,8 @@ public final class DivisionHall {
         private static final int BEHIND_UNIT = 4;
         private static final int BEHIND_CLAUSE = 5;
         private static final int LAST = 6;
-        private static final int OVER = 7;
+        private static final int FIRST = 7;
+        private static final int OVER = 8;
 
         private final int[] text = new int[MOST_BYTES];
         private final int[] code = new int[MOST_BYTES];
@@ -624,7 +625,7 @@ public final class DivisionHall {
             compared = false;
             open = 0;
             parentheses = 0;
-            state = length == 0 ? OVER : CLAUSE;
+            state = FIRST;
             for (int n = 0; n <= MOST_BYTES && state != OVER; n++) {
                 nextToken();
                 takeToken();
@@ -702,6 +703,7 @@ public final class DivisionHall {
                 state = BEHIND_CLAUSE;
             }
             switch (state) {
+                case FIRST: takeFirst(); break;
                 case CLAUSE: takeClause(); break;
                 case UNIT: takeUnit(); break;
                 case OWNER: takeOwner(); break;
@@ -709,6 +711,15 @@ public final class DivisionHall {
                 case BEHIND_UNIT: takeBehindUnit(); break;
                 case BEHIND_CLAUSE: takeBehindClause(); break;
                 default: takeLast(); break;
+            }
+        }
+
+        /** A blank is no token: a tape of blanks alone is the empty text too. */
+        private void takeFirst() {
+            if (sign == Sign.END) {
+                state = OVER;
+            } else {
+                takeClause();
             }
         }
 
@@ -734,6 +745,7 @@ public final class DivisionHall {
                 parentheses++;
             }
             push();
+            state = CLAUSE;
         }
 
         private void takeUnit() {

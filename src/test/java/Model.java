@@ -259,7 +259,8 @@ final class Model {
     fault = 0;
     place = -1;
     try {
-      rules[r] = text.isEmpty() ? (s, t) -> 0 : new Parser(text).whole();
+      Parser parser = new Parser(text);
+      rules[r] = parser.tokens.isEmpty() ? (s, t) -> 0 : parser.whole();
       return true;
     } catch (Fault f) {
       fault = f.kind;

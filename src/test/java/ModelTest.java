@@ -59,7 +59,7 @@ public final class ModelTest {
     return b.toString();
   }
   private String aText() {
-    if (chance(3)) return chance(50) ? "" : "  ";
+    if (chance(4)) return chance(30) ? "" : (chance(50) ? " " : "\n").repeat(1 + below(chance(90) ? 4 : 380)) + blank();
     StringBuilder b = new StringBuilder();
     if (chance(8)) {
       for (int n = below(30); n >= 0; n--) b.append(WORDS[below(WORDS.length)]).append(blank());

@@ -228,6 +228,16 @@ public final class PromiseTest {
     due("fault", h.fault(0), 0);
     due("nothing carries", h.carries(0, 1), 0);
     due("nothing carries", h.leasts(0, 0), 0);
+    for (String blanks : new String[] {" ", "\n", "   ", " \n\n ", " ".repeat(400)}) {
+      rule(h, 0, "has 0;");
+      due("carries", h.carries(0, 1), 1);
+      tape(h, "has x;");
+      due("a fault", h.rule(1), false);
+      rule(h, 0, blanks);
+      due("the tape is empty", h.end(1), false);
+      for (int set = 0; set < 8; set++) due("nothing carries by blanks alone", h.carries(0, set), 0);
+      due("nothing carries by blanks alone", h.leasts(0, 0), 0);
+    }
     StringBuilder longest = new StringBuilder("1");
     for (int i = 0; i < 198; i++) longest.append("+1");
     rule(h, 3, longest + "=1;");
@@ -264,7 +274,12 @@ public final class PromiseTest {
     rule(h, 2, "has 1;");
     faulty(h, ";", 1, 0);
     faulty(h, " ;", 1, 1);
-    faulty(h, "   ", 1, 3);
+    faulty(h, "   \t", 1, 3);
+    faulty(h, " \r\n", 1, 1);
+    faulty(h, "\0", 1, 0);
+    faulty(h, "not ", 1, 4);
+    faulty(h, "( ", 1, 2);
+    faulty(h, "1=1 and \n", 1, 9);
     faulty(h, "heads>1", 1, 7);
     faulty(h, "heads>1 \n ", 1, 10);
     faulty(h, "heads>1;;", 1, 8);
