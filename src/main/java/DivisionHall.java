@@ -479,10 +479,10 @@ public final class DivisionHall {
 
         /** Of like days the later telling counts: so a later row wins over one of the same day. */
         private void keepLatest(int i) {
-            int m = member[i];
-            if (!inside(m, MEMBERS)) {
+            if (!inside(i, MOST_SHIFTS) || !inside(member[i], MEMBERS)) {
                 return;
             }
+            int m = member[i];
             int old = latest[m];
             if (!inside(old, MOST_SHIFTS) || day[i] >= day[old]) {
                 latest[m] = i;
@@ -1348,7 +1348,7 @@ public final class DivisionHall {
         private boolean firstOrder(int set) {
             count = 0;
             for (int x = 0; x < MOTIONS; x++) {
-                if (has(set, x)) {
+                if (has(set, x) && inside(count, MOTIONS)) {
                     order[count] = x;
                     count++;
                 }
@@ -1358,6 +1358,9 @@ public final class DivisionHall {
 
         /** The next order by words; false behind the last one. */
         private boolean nextOrder() {
+            if (!inside(count - 1, MOTIONS)) {
+                return false;
+            }
             int i = count - 2;
             while (i >= 0 && order[i] > order[i + 1]) {
                 i--;

@@ -102,6 +102,15 @@ final class BlocEdges {
     s.due("with one in", h.coalition(0, 3), 0);
     h.line(0, 51);
     s.due("one place alone", h.coalition(0, 3), 1);
+    for (int b = 0; b < 6; b++) {
+      Hall six = Hall.weighing(1, 1, 1, 1, 1, 1).tell(0, "heads=5 and not has " + b + ";");
+      for (int other = 0; other < 6; other++) six.line(other, other == b ? 50 : other % 2 == 0 ? 49 : 50);
+      six.line(b == 5 ? 4 : 5, 51);
+      six.line(b == 0 ? 1 : 0, 49);
+      s.due("bloc " + b + " between", six.coalition(0, 3), 0);
+      six.line(b, 51);
+      s.due("bloc " + b + " at the end", six.coalition(0, 3), 1);
+    }
     Hall one = Hall.weighing(1, 1).tell(0, "has 0 and not has 1;");
     s.due("a bloc alone", one.coalition(0, 3), 1);
     Hall all = Hall.weighing(1, 1, 1).tell(0, "heads=3;");
@@ -232,6 +241,12 @@ final class BlocEdges {
     s.due("with sight: 8 and 9", h.deal(3, 7, 0, true, 10), 17);
     s.due("the last choice is the same", h.deal(3, 1, 0, true, 10), 9);
     s.due("the last choice is the same", h.deal(3, 4, 0, true, 10), 1);
+    Hall full = Hall.weighing(4, 3, 2);
+    values(full, new int[][] {{9, 8, 7, 6, 5, 4, 3, 2}, {2, 9, 4, 8, 1, 7, 3, 6}, {7, 1, 9, 2, 8, 3, 6, 4}});
+    owners(s, full, 7, 255, false, 0, 1, 0, 1, 2, 0, 0, 1);
+    owners(s, full, 7, 255, true, 0, 0, 0, 1, 2, 1, 0, 1);
+    int[][] held = {{23, 23, 8}, {20, 22, 15}, {27, 21, 8}, {22, 21, 15}};
+    for (int i = 0; i < 4; i++) for (int b = 0; b < 3; b++) s.due("eight posts, bloc " + b, full.deal(7, 255, i % 2, i > 1, 10 + b), held[i][b]);
   }
 
   private static void noneToAllPosts(Sentences s) {

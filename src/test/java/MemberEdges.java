@@ -428,6 +428,17 @@ final class MemberEdges {
     first.shift(0, 1, 2, 0, 0);
     s.due("the first day counts", first.days(0, 1, 0, 999, 0), 1);
     s.due("but not if a is behind it", first.days(0, 1, 1, 999, 0), 0);
+    Hall one = new Hall().tell(0, "heads=1;");
+    one.member();
+    one.shift(0, 500, 1, 0, 0);
+    s.due("from the day of the only shift on", one.days(0, 1, 0, 999, 0), 500);
+    s.due("the day ahead of it", one.days(0, 1, 499, 499, 0), 0);
+    s.due("its day", one.days(0, 1, 500, 500, 0), 1);
+    Hall full = new Hall().tell(0, "weight>0;");
+    full.member();
+    for (int i = 0; i < 200; i++) full.shift(0, 1 + 5 * i, i % 2, 0, 0);
+    s.due("200 shifts, each from another day", full.days(0, 1, 0, 999, 0), 499);
+    s.due("up to the last one but one", full.days(0, 1, 0, 995, 0), 495);
   }
 
   private static void daysAsKnown(Sentences s) {

@@ -3,7 +3,10 @@ import java.util.Random;
 /** Runs of calls drawn by fixed seeds, each answer held against that of the plain Model. */
 public final class ModelTest {
   private static final int RUNS = 700;
-  private static final int CALLS = 511;
+  /** Behind as many calls of one object the document promises nothing. */
+  private static final int CALLS = 512;
+  /** Telling a rule takes the most: end(), 19 times feed(), end(), rule() and 4 times fault(). */
+  private static final int DEAREST = 26;
   private static final String[] WORDS = {"or", "and", "not", "has", "heads", "weight", "members", "all", "of", "(", ")", "<", "=", ">", "+", "-", "*", ";", "1", "0", "9", "10", "6", "1234", "12345", "x", "Heads", "#", "\n", "0003"};
 
   private static long wrong = 0;
@@ -14,6 +17,7 @@ public final class ModelTest {
   private final int most;
   private int told = 0;
   private String text = "";
+  private int calls = 0;
 
   private ModelTest(int run) {
     this.run = run;
@@ -34,6 +38,7 @@ public final class ModelTest {
   private int yes(boolean b) { return b ? 1 : 0; }
 
   private void due(String call, long got, long want) {
+    calls++;
     if (got == want) return;
     wrong++;
     if (wrong < 40) System.out.println("run " + run + ": " + call + " answered " + got + ", due is " + want + " (last text: " + text + ")");
@@ -248,13 +253,13 @@ public final class ModelTest {
         due("value", yes(hall.value(p2, b, v)), yes(model.value(p2, b, v)));
       }
     }
-    for (int n = 0; n < CALLS; n++) {
+    while (calls <= CALLS - DEAREST) {
       int kind = below(23);
       // changes are rarer than questions
       if (kind <= 2 && chance(50)) kind = 5 + below(13);
       oneCall(kind);
     }
-    if (most == 10) due("member()", hall.member(), model.member());
+    if (most == 10 && calls < CALLS) due("member()", hall.member(), model.member());
   }
 
   public static void main(String[] args) {

@@ -138,6 +138,10 @@ final class PowerEdges {
     s.due("the empty set alone", h.worth(0, 1, 0), 2);
     s.due("the empty set alone", h.worth(1, 0, 1), 3);
     s.due("both together do not count", h.worth(2, 0, 1), 3);
+    h.tell(2, "heads=1;");
+    s.due("both together do not count", h.worth(2, 0, 1), 3);
+    h.tell(2, "heads=0 or has 0 and heads=1;");
+    s.due("nor does neither of them", h.worth(2, 0, 1), 1);
     h.member();
     h.member();
     h.shift(2, 0, 1, 0, 0);

@@ -116,8 +116,8 @@ final class RuleEdges {
 
   private static void comparisonsAtOneNumber(Sentences s) {
     Hall h = new Hall();
-    holds(s, h, 0, "6<7;", "7=7;", "8>7;", "0=0;", "0-1<0;", "0>0-1;", "9998<9999;");
-    fails(s, h, 0, "7<7;", "8<7;", "6=7;", "8=7;", "7>7;", "6>7;", "0<0-1;", "0-1>0;");
+    holds(s, h, 0, "6<7;", "7=7;", "8>7;", "0=0;", "0-1<0;", "0>0-1;", "9998<9999;", "6<7 and 7=7 and 8>7;");
+    fails(s, h, 0, "not 6<7;", "not 7=7;", "not 8>7;", "7<7;", "8<7;", "6=7;", "8=7;", "7>7;", "6>7;", "0<0-1;", "0-1>0;");
     faulty(s, 1, 3, "7=7=7;");
     faulty(s, 1, 2, "7<=7;");
     faulty(s, 1, 1, "7;");
@@ -195,7 +195,7 @@ final class RuleEdges {
   private static void lettersTogether(Sentences s) {
     good(s, "not has 1and has 2or weight of 1>heads and members=all;");
     for (String word : new String[] {"o", "orr", "an", "ands", "no", "nott", "ha", "hass", "head", "headss", "weigh", "weights", "member", "memberss", "al", "alll", "o", "off", "x", "Heads",
-      "HEADS", "headS", "notnot", "hasnot", "a", "z", "A", "Z", "headsof", "q".repeat(300)}) {
+      "HEADS", "headS", "notnot", "hasnot", "a", "z", "A", "Z", "headsof", "headsa", "headsz", "headsA", "headsZ", "zheads", "Aheads", "q".repeat(300)}) {
       faulty(s, 1, 0, word + ";");
       faulty(s, 1, 2, "1=" + word + ";");
       faulty(s, 1, 4, "1=1 " + word + " 1=1;");
@@ -318,6 +318,8 @@ final class RuleEdges {
     h.type("1=1;").end(3);
     s.due("the end is that of the tape", h.rule(0), false);
     s.due("fault(1)", h.fault(1), 3);
+    faulty(s, 1, 400, " ".repeat(393) + "1=heads");
+    faulty(s, 1, 400, " ".repeat(394) + "1=9999");
   }
 
   private static void behindTheSemicolon(Sentences s) {
@@ -361,6 +363,12 @@ final class RuleEdges {
     faulty(s, 3, 11, "(((((((not (1=1))))))));");
     faulty(s, 3, 19, "(((((((1=1 and not not 1=1");
     faulty(s, 3, 15, "((((((((1=1)or((");
+    for (String text : new String[] {"(((((((((", "((((", "not not x", "not ".repeat(8)}) {
+      Hall again = new Hall();
+      again.type(text).rule(0);
+      fault(s, again, "((((((((1=1))))))));", "0 at -1");
+      fault(s, again, "not ".repeat(8) + "1=1;", "0 at -1");
+    }
   }
 
   private static void headsAndWeight(Sentences s) {
@@ -465,6 +473,15 @@ final class RuleEdges {
     for (int n = 20; n <= 400; n += 20) h.feed(0x20202020, 0x20202020, 0x20202020, 0x20202020, 0x20202020);
     s.due("end(400) of 400", h.end(400), true);
     s.due("end(401)", h.end(401), false);
+    String[] cut = {"has 12;", "1=headsx", "1=1  ;", "1=1+", "1=heads of"};
+    int[] at = {5, 7, 3, 3, 7};
+    for (int i = 0; i < cut.length; i++) {
+      Hall cutOff = new Hall().type(cut[i]);
+      s.due("end(" + at[i] + ") of " + cut[i], cutOff.end(at[i]), true);
+      s.due("what is behind is not read", cutOff.rule(0), false);
+      s.due("fault(0)", cutOff.fault(0), 1);
+      s.due("fault(1)", cutOff.fault(1), at[i]);
+    }
   }
 
   private static void endThatCannotBe(Sentences s) {
@@ -514,6 +531,13 @@ final class RuleEdges {
       s.due("so do its least sets", h.leasts(2, 0), 1);
       s.due("the tape is empty", h.end(1), false);
       s.due("feed", h.feed(0, 0, 0, 0, 0), 20);
+    }
+    for (String text : new String[] {"not 1=", "(1=1 and not (", "1=1 or 2*3+", "not not has 10;", "heads of"}) {
+      Hall next = new Hall();
+      next.type(text).rule(0);
+      s.due("behind " + text + " a next one is read anew", next.so("1=1;", 0), 1);
+      next.type(text).rule(0);
+      s.due("behind " + text + " a next one is read anew", next.so("not 1=1;", 0), 0);
     }
     Hall h = new Hall();
     s.due("a fault of a rule that was empty", h.type("1=1").rule(1), false);
