@@ -175,6 +175,11 @@ final class PowerEdges {
     h.shift(3, 0, 0, -1, 0);
     noTrade(s, h, 0);
     trade(s, h, 3, 3, 5, 1, 7);
+    h.tell(0, "heads=0 or heads=3;").tell(1, "heads=1 or heads=2;").tell(2, "heads=0 or heads=1 or heads=3;");
+    trade(s, h, 0, 0, 7, 1, 6);
+    trade(s, h, 1, 1, 6, 0, 7);
+    trade(s, h, 2, 1, 7, 3, 5);
+    trade(s, Hall.weighing(1, 1, 1, 1).tell(0, "has 0 and not has 1 or has 3 and not has 2;"), 0, 5, 10, 0, 15);
   }
 
   private static void firstTrade(Sentences s) {
