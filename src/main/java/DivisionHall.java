@@ -695,6 +695,10 @@ public final class DivisionHall {
         }
 
         private void takeToken() {
+            if (state == FIRST) {
+                // a blank is no token: a tape of blanks alone is the empty text too
+                state = sign == Sign.END ? OVER : CLAUSE;
+            }
             if (state == BEHIND_NAME && sign != Sign.OF) {
                 emit(name, 0);
                 state = BEHIND_UNIT;
@@ -703,23 +707,14 @@ public final class DivisionHall {
                 state = BEHIND_CLAUSE;
             }
             switch (state) {
-                case FIRST: takeFirst(); break;
                 case CLAUSE: takeClause(); break;
                 case UNIT: takeUnit(); break;
                 case OWNER: takeOwner(); break;
                 case BEHIND_NAME: state = OWNER; break;
                 case BEHIND_UNIT: takeBehindUnit(); break;
                 case BEHIND_CLAUSE: takeBehindClause(); break;
-                default: takeLast(); break;
-            }
-        }
-
-        /** A blank is no token: a tape of blanks alone is the empty text too. */
-        private void takeFirst() {
-            if (sign == Sign.END) {
-                state = OVER;
-            } else {
-                takeClause();
+                case LAST: takeLast(); break;
+                default: break;
             }
         }
 

@@ -12,28 +12,28 @@ final class BlocEdges {
 
   static void tell(Sentences s) {
     s.test("Terms 5", "A COALITION is a set of BLOCS; its MEMBERS: all IN of these.", BlocEdges::allInOfThese);
-    s.test("Terms 5", "(each BLOC has a PLACE 0 .. 99; 0 at first)", BlocEdges::placesAtFirstAndAtTheEnds);
+    s.test("Terms 5", "It hangs together on a LINE (each BLOC has a PLACE 0 .. 99; 0 at first)", BlocEdges::placesAtFirstAndAtTheEnds);
     s.test("Terms 5", "if no other BLOC that has MEMBERS IN lies strictly between two PLACES of it.", BlocEdges::strictlyBetween);
-    s.test("Terms 5", "of the sets of BLOCS that have MEMBERS IN that CARRY and hang together", BlocEdges::blocsWithMembersIn);
+    s.test("Terms 5", "BEST by a RULE: of the sets of BLOCS that have MEMBERS IN that CARRY and hang together", BlocEdges::blocsWithMembersIn);
     s.test("Terms 5", "the least from its least to its greatest PLACE; of several the least WEIGHT; then the least set.", BlocEdges::leastSpanWeightSet);
     s.test("Terms 5", "POSTS 0 .. 7 have for each BLOC a VALUE (0 .. 99; 0 at first).", BlocEdges::valuesAtFirstAndAtTheEnds);
     s.test("Terms 5", "DEALT to a COALITION (not empty; all its BLOCS with a WEIGHT above 0)", BlocEdges::weightAboveNothing);
-    s.test("Terms 5", "that with the greatest WEIGHT by (its choices so far and 1), or in WAY 1 by (twice these and 1)", BlocEdges::twoWays);
+    s.test("Terms 5", "POST by POST a BLOC comes to choose: that with the greatest WEIGHT by (its choices so far and 1), or in WAY 1 by (twice these and 1)", BlocEdges::twoWays);
     s.test("Terms 5", "of like ones that with the greater WEIGHT, then the least.", BlocEdges::likeShares);
-    s.test("Terms 5", "it takes what is of most VALUE to it of those left (of like ones the least)", BlocEdges::likeValues);
+    s.test("Terms 5", "Plain: it takes what is of most VALUE to it of those left (of like ones the least)", BlocEdges::likeValues);
     s.test("Terms 5", "(of like ones the least POST)", BlocEdges::likeValuesWithSight);
     s.test("Terms 5", "With SIGHT: what leads to the most VALUE for itself in the end, all others choosing with SIGHT", BlocEdges::mostInTheEnd);
     s.test("Terms 5", "All POSTS of a set are dealt.", BlocEdges::noneToAllPosts);
-    s.test("Terms 5", "`NONE = -1`: None.", t -> t.due("NONE", DivisionHall.NONE, -1));
+    s.test("Terms 5", "The constants: `NONE = -1`: None.", t -> t.due("NONE", DivisionHall.NONE, -1));
 
     s.test("Promise 24: line", "BLOC b has a PLACE: true", BlocEdges::placeAtItsEnds);
     s.test("Promise 24: line", "false, and nothing is done, if one can't be.", BlocEdges::lineThatCannotBe);
-    s.test("Promise 25: coalition", "what 0 the set, 1 from its least to its greatest PLACE, 2 its WEIGHT, 3 how many CARRY and hang together.", BlocEdges::oneToAllCoalitions);
+    s.test("Promise 25: coalition", "BEST COALITION: what 0 the set, 1 from its least to its greatest PLACE, 2 its WEIGHT, 3 how many CARRY and hang together.", BlocEdges::oneToAllCoalitions);
     s.test("Promise 25: coalition", "NONE if there is none (for 3: 0)", BlocEdges::noCoalition);
     s.test("Promise 25: coalition", "one can't be, or another what.", BlocEdges::coalitionThatCannotBe);
     s.test("Promise 26: value", "POST p is of a VALUE to BLOC b: true", BlocEdges::valueAtItsEnds);
     s.test("Promise 26: value", "false, and nothing is done, if one can't be.", BlocEdges::valueThatCannotBe);
-    s.test("Promise 27: deal", "what 0 .. 7 the BLOC to which that POST goes", BlocEdges::everyPost);
+    s.test("Promise 27: deal", "DEALT: what 0 .. 7 the BLOC to which that POST goes", BlocEdges::everyPost);
     s.test("Promise 27: deal", "10 + b what BLOC b has in VALUE", BlocEdges::everyBloc);
     s.test("Promise 27: deal", "20 + i the BLOC that chooses i-th", BlocEdges::everyChoice);
     s.test("Promise 27: deal", "NONE if one can't be", BlocEdges::dealThatCannotBe);

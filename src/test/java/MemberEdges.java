@@ -11,13 +11,13 @@ final class MemberEdges {
     s.test("What it is", "An object is used for at most 512 calls after it has been made", MemberEdges::lastCall);
 
     s.test("Terms 1", "MEMBERS 0 .. 9, numbered as they come.", MemberEdges::numbersOfMembers);
-    s.test("Terms 1", "a MEMBER has from a DAY on (0 .. 999)", MemberEdges::dayOfShift);
+    s.test("Terms 1", "SHIFTS: a MEMBER has from a DAY on (0 .. 999)", MemberEdges::dayOfShift);
     s.test("Terms 1", "a WEIGHT (0 .. 99)", MemberEdges::weightOfShift);
     s.test("Terms 1", "and a BLOC (0 .. 5), or is OUT", MemberEdges::blocOfShift);
     s.test("Terms 1", "told on a DAY, never below that of the telling ahead", MemberEdges::toldNotBelow);
     s.test("Terms 1", "(0 .. 999; 200 at most)", MemberEdges::dayOfTelling);
     s.test("Terms 1", "AS KNOWN on a DAY k: by those told by then", MemberEdges::knownByThen);
-    s.test("Terms 1", "the SHIFT from the latest DAY that is not behind d", MemberEdges::latestDay);
+    s.test("Terms 1", "how a MEMBER is on a DAY d is told by the SHIFT from the latest DAY that is not behind d", MemberEdges::latestDay);
     s.test("Terms 1", "of like ones the latest told", MemberEdges::latestTold);
     s.test("Terms 1", "without one it is OUT", MemberEdges::outWithoutShift);
     s.test("Terms 1", "THE VIEW is a DAY d and a DAY k (999 and 999 at first)", MemberEdges::viewAtFirst);
@@ -33,6 +33,7 @@ final class MemberEdges {
     s.test("Promise 3: shift", "or there are 200", MemberEdges::noMoreThan200Shifts);
     s.test("Promise 4: view", "THE VIEW: true", MemberEdges::viewAtItsEnds);
     s.test("Promise 4: view", "false, and nothing is done, if one can't be.", MemberEdges::viewThatCannotBe);
+    s.test("Promise 5: of", "Of MEMBER m in THE VIEW", MemberEdges::ofInTheView);
     s.test("Promise 5: of", "what 0 WEIGHT, 1 BLOC, 2 its WISH's first MOTION (NONE)", MemberEdges::ofOneIn);
     s.test("Promise 5: of", "NONE if it is OUT (for 0, 1)", MemberEdges::ofOneOut);
     s.test("Promise 5: of", "there is none such", MemberEdges::ofNoneSuch);
@@ -358,6 +359,19 @@ final class MemberEdges {
       s.due("view(" + b + ", " + b + ")", h.view(b, b), false);
     }
     s.same("views that can't be", h.state(), before);
+  }
+
+  private static void ofInTheView(Sentences s) {
+    Hall h = new Hall();
+    h.member();
+    h.shift(0, 10, 3, 1, 5);
+    h.shift(0, 20, 4, 2, 6);
+    int[][] due = {{9, 999, -1, -1}, {10, 999, 3, 1}, {19, 999, 3, 1}, {20, 999, 4, 2}, {999, 4, -1, -1}, {999, 5, 3, 1}, {999, 6, 4, 2}, {9, 5, -1, -1}};
+    for (int[] d : due) {
+      s.due("view(" + d[0] + ", " + d[1] + ")", h.view(d[0], d[1]), true);
+      s.due("its weight in view(" + d[0] + ", " + d[1] + ")", h.of(0, 0), d[2]);
+      s.due("its bloc in view(" + d[0] + ", " + d[1] + ")", h.of(0, 1), d[3]);
+    }
   }
 
   private static void ofOneIn(Sentences s) {

@@ -19,16 +19,19 @@ final class MotionEdges {
     s.test("Terms 4", "An AGENDA is a row of unlike MOTIONS: the first one stands", MotionEdges::firstOneStands);
     s.test("Terms 4", "each next one is put against what stands: it comes in its place, if it BEATS it.", MotionEdges::nextOneBeats);
     s.test("Terms 4", "SINCERE: by what they are.", MotionEdges::sincere);
-    s.test("Terms 4", "(by the rest of the AGENDA, with SIGHT)", MotionEdges::shortestAndLongestSight);
+    s.test("Terms 4", "With SIGHT: what each leads to (by the rest of the AGENDA, with SIGHT)", MotionEdges::shortestAndLongestSight);
+    s.test("Terms 4", "is asked in place of them: the new one comes in its place, if what it leads to BEATS what the other leads to", MotionEdges::whatTheyLeadTo);
     s.test("Terms 4", "(not if both lead to one)", MotionEdges::bothLeadToOne);
     s.test("Terms 4", "THROUGH: of all orders of a set of MOTIONS, as AGENDAS, those in which a MOTION stands in the end; the first one by words.", MotionEdges::allOrders);
     s.test("Terms 4", "BEST of a set: the MOTION that BEATS all others of it, if there is one.", MotionEdges::beatsAllOthers);
 
-    s.test("Promise 19: wish", "the order that the digits of a number of six figures tell (0 .. 5, each once; a leading 0 may lack)", MotionEdges::sixFigures);
+    s.test("Promise 19: wish", "MEMBER m's WISH is the order that the digits of a number of six figures tell (0 .. 5, each once; a leading 0 may lack)", MotionEdges::sixFigures);
     s.test("Promise 19: wish", "-1: none any more.", MotionEdges::noWishAnyMore);
     s.test("Promise 19: wish", "True; false, and nothing is done, if one can't be.", MotionEdges::wishThatCannotBe);
     s.test("Promise 20: support", "Those FOR a over b, as a set", MotionEdges::noneToAllFor);
     s.test("Promise 20: support", "NONE if one can't be (the same).", MotionEdges::supportThatCannotBe);
+    s.test("Promise 21: agenda", "What stands in the end by an AGENDA", MotionEdges::standsInTheEnd);
+    s.test("Promise 21: agenda", "with SIGHT or not.", MotionEdges::withSightOrNot);
     s.test("Promise 21: agenda", "(its MOTIONS' digits, the first one highest, behind a leading 9: 9 and 1 to 6 figures)", MotionEdges::oneToSixFigures);
     s.test("Promise 21: agenda", "NONE if one can't be.", MotionEdges::agendaThatCannotBe);
     s.test("Promise 22: through", "What 0 how many orders bring MOTION x of a set THROUGH, 1 the first one (as for agenda()).", MotionEdges::noneToAllOrders);
@@ -149,6 +152,17 @@ final class MotionEdges {
     for (int[] d : due) s.due("agenda(1, " + d[0] + ", true)", h.agenda(1, d[0], true), d[1]);
   }
 
+  /** Of the round 0 beats 1, 1 beats 2, and 2 beats 0. */
+  private static void whatTheyLeadTo(Sentences s) {
+    Hall h = round();
+    s.due("1 does not beat 0; but it leads to 1, which beats 2, to which 0 leads", h.agenda(1, 9012, true), 1);
+    s.due("2 beats 0; but it leads to 1, which does not beat 0, to which 0 leads", h.agenda(1, 9021, true), 0);
+    s.due("2 does not beat 1; but it leads to 2, which beats 0, to which 1 leads", h.agenda(1, 9120, true), 2);
+    s.due("0 beats 1; but it leads to 2, which does not beat 1, to which 1 leads", h.agenda(1, 9102, true), 1);
+    s.due("one more ahead that leads to 1 as 1 does", h.agenda(1, 93012, true), 1);
+    s.due("one more behind that leads to nothing", h.agenda(1, 90123, true), 1);
+  }
+
   private static void bothLeadToOne(Sentences s) {
     Hall h = new Hall().tell(0, "heads=0;");
     h.member();
@@ -259,6 +273,23 @@ final class MotionEdges {
       s.due("support(" + x + ", 5)", h.support(x, 5), -1);
       s.due("support(0, " + x + ")", h.support(0, x), -1);
       s.due("support(" + x + ", " + x + ")", h.support(x, x), -1);
+    }
+  }
+
+  private static void standsInTheEnd(Sentences s) {
+    Hall h = voters(304152);
+    int[][] due = {{90, 0}, {925, 5}, {9251, 1}, {92514, 4}, {925140, 0}, {9251403, 3}, {9304152, 3}, {904152, 0}, {94152, 4}, {9152, 1}, {952, 5}, {92, 2}};
+    for (int[] d : due) {
+      s.due("the best of " + d[0], h.agenda(1, d[0], false), d[1]);
+      s.due("the best of " + d[0] + ", with sight", h.agenda(1, d[0], true), d[1]);
+    }
+  }
+
+  private static void withSightOrNot(Sentences s) {
+    Hall h = round();
+    for (int[] d : new int[][] {{9012, 2, 1}, {9021, 1, 0}, {9120, 0, 2}, {901, 0, 0}}) {
+      s.due("agenda(1, " + d[0] + ", false)", h.agenda(1, d[0], false), d[1]);
+      s.due("agenda(1, " + d[0] + ", true)", h.agenda(1, d[0], true), d[2]);
     }
   }
 

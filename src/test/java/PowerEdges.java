@@ -25,7 +25,7 @@ final class PowerEdges {
     s.test("Promise 12: leasts", "NONE if one can't be, or another what.", PowerEdges::leastsThatCannotBe);
     s.test("Promise 13: least", "The i-th of these by numbers", PowerEdges::firstAndLastLeast);
     s.test("Promise 13: least", "NONE if there is none such.", PowerEdges::leastNoneSuch);
-    s.test("Promise 14: power", "what 0 SWINGS, 1, 2 SWINGS by all sets without it, as a fraction", PowerEdges::swingsAsFraction);
+    s.test("Promise 14: power", "Of MEMBER m what 0 SWINGS, 1, 2 SWINGS by all sets without it, as a fraction", PowerEdges::swingsAsFraction);
     s.test("Promise 14: power", "3, 4 TURNS by all orders likewise (without a common part)", PowerEdges::turnsAsFraction);
     s.test("Promise 14: power", "NONE if it is not IN, one can't be, or another what.", PowerEdges::powerThatCannotBe);
     s.test("Promise 15: odd", "ODD: what 0 the set, 1 the MEMBER.", PowerEdges::oddSetAndMember);

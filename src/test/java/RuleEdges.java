@@ -9,6 +9,7 @@ final class RuleEdges {
 
   static void tell(Sentences s) {
     s.test("Terms 2", "RULES 0 .. 3 are TEXTS", RuleEdges::fourRules);
+    s.test("Terms 2", "= B ;", RuleEdges::oneOnlyAndItsEnd);
     s.test("Terms 2", "(an empty TEXT: nothing carries, as at first)", RuleEdges::emptyText);
     s.test("Terms 2", "B = A {or A}.", RuleEdges::manyOrs);
     s.test("Terms 2", "A = C {and C}.", RuleEdges::manyAnds);
@@ -18,7 +19,7 @@ final class RuleEdges {
     s.test("Terms 2", "T = U {* U}.", RuleEdges::manyProducts);
     s.test("Terms 2", "U = NUMBER | heads | weight | members | all | heads of N | weight of N.", RuleEdges::everyUnit);
     s.test("Terms 2", "(N behind has: a MEMBER 0 .. 9; behind of: a BLOC 0 .. 5.)", RuleEdges::numbersBehindHasAndOf);
-    s.test("Terms 2", "letters as many as stand together are KEYWORDS (those told here) or none", RuleEdges::lettersTogether);
+    s.test("Terms 2", "TOKENS: letters as many as stand together are KEYWORDS (those told here) or none", RuleEdges::lettersTogether);
     s.test("Terms 2", "digits as many as stand together NUMBERS of 1 to 4 digits or none", RuleEdges::digitsTogether);
     s.test("Terms 2", "; + - * ( ) < = > .", RuleEdges::everyByte);
     s.test("Terms 2", "Blanks (32, 10) between.", RuleEdges::blanksBetween);
@@ -30,13 +31,15 @@ final class RuleEdges {
     s.test("Terms 2", "anything behind the ;)", RuleEdges::behindTheSemicolon);
     s.test("Terms 2", "2 (at the NUMBER) a MEMBER above 9, a BLOC above 5.", RuleEdges::noneSuch);
     s.test("Terms 2", "3 (at it) the 9th ( or not that is open.", RuleEdges::ninthOpen);
-    s.test("Terms 2", "heads how many MEMBERS it has, weight their WEIGHTS together", RuleEdges::headsAndWeight);
+    s.test("Terms 2", "Asked of a set: heads how many MEMBERS it has, weight their WEIGHTS together", RuleEdges::headsAndWeight);
     s.test("Terms 2", "members how many are IN, all the WEIGHTS of all IN", RuleEdges::membersAndAll);
     s.test("Terms 2", "of N: of those of the set that are of this BLOC", RuleEdges::ofABloc);
     s.test("Terms 2", "has N: MEMBER N is in it", RuleEdges::hasAMember);
+    s.test("Terms 2", "It CARRIES, if B is so.", RuleEdges::carriesIfSo);
 
     s.test("Promise 7: feed", "Twenty bytes come behind the TAPE", RuleEdges::behindTheTape);
     s.test("Promise 7: feed", "of each number the highest first", RuleEdges::highestByteFirst);
+    s.test("Promise 7: feed", "how many it has.", RuleEdges::howManyTheTapeHas);
     s.test("Promise 7: feed", "NONE, and nothing comes, if there would be more than 400.", RuleEdges::fullTape);
     s.test("Promise 8: end", "The TAPE has its first n bytes alone: true", RuleEdges::firstBytesAlone);
     s.test("Promise 8: end", "false, changing nothing, if it has not so many, or n is below 0.", RuleEdges::endThatCannotBe);
@@ -408,6 +411,38 @@ final class RuleEdges {
     fails(s, h, 0, "has 0;", "has 1;", "has 9;");
     Hall ten = Hall.ten();
     holds(s, ten, 512, "has 9;", "not has 8;", "not has 0;");
+  }
+
+  private static void oneOnlyAndItsEnd(Sentences s) {
+    good(s, "1=1;");
+    faulty(s, 1, 0, ";");
+    faulty(s, 1, 3, "1=1");
+    faulty(s, 1, 4, "1=1 1=1;");
+    faulty(s, 1, 4, "1=1;1=1;");
+    faulty(s, 1, 4, "1=1;;");
+    faulty(s, 1, 0, ";1=1;");
+  }
+
+  private static void carriesIfSo(Sentences s) {
+    Hall h = Hall.weighing(2, 1);
+    for (int set = 0; set < 4; set++) {
+      holds(s, h, set, "1=1;", "2>1 or 1=2;", "not 1=2;");
+      fails(s, h, set, "1=2;", "1>1 and 1=1;", "not 1=1;");
+    }
+    int[] due = {0, 1, 0, 1};
+    for (int set = 0; set < 4; set++) s.due("more than half of all, of set " + set, h.so("weight*2>all;", set), due[set]);
+  }
+
+  private static void howManyTheTapeHas(Sentences s) {
+    Hall h = new Hall();
+    for (int n : new int[] {0, 1, 19, 20, 21, 39, 40}) {
+      h.end(0);
+      for (int i = 0; i < 2; i++) h.feed(0, 0, 0, 0, 0);
+      s.due("end(" + n + ")", h.end(n), true);
+      s.due("feed behind " + n, h.feed(-1, -1, -1, -1, -1), n + 20);
+    }
+    h.rule(0);
+    s.due("feed behind rule()", h.feed(0, 0, 0, 0, 0), 20);
   }
 
   private static void behindTheTape(Sentences s) {

@@ -4,8 +4,6 @@ import java.nio.file.Path;
 import java.util.LinkedHashMap;
 import java.util.List;
 import java.util.Map;
-import java.util.Set;
-import java.util.TreeSet;
 import java.util.function.Consumer;
 
 /**
@@ -17,7 +15,8 @@ final class Sentences {
   private static final int MOST_TOLD = 60;
 
   private final Map<String, String> parts = new LinkedHashMap<>();
-  private final Set<String> tested = new TreeSet<>();
+  /** What of the promises and terms no test has named yet. */
+  private final Map<String, String> left = new LinkedHashMap<>();
   private String sentence = "";
   private int tests = 0;
   private int wrong = 0;
@@ -30,14 +29,20 @@ final class Sentences {
       parts.merge(part, line, (old, more) -> old + " " + more);
     }
     parts.replaceAll((name, text) -> plain(text));
+    parts.forEach((name, text) -> {
+      if (name.startsWith("Promise ") || name.startsWith("Terms ")) left.put(name, withoutHead(text));
+    });
   }
+
+  /** Without the heading or the part's number, and without the method's own line. */
+  private static String withoutHead(String text) { return text.replaceAll("^## (Terms|Promise .*`[^`]*`:)|^==== \\d\\.|```text|```", " "); }
 
   private static String plain(String text) { return text.replaceAll("\\s+", " "); }
 
   void test(String part, String words, Consumer<Sentences> body) {
     sentence = part + ", \"" + words + "\"";
     tests++;
-    tested.add(part);
+    left.computeIfPresent(part, (name, text) -> text.replace(plain(words), " "));
     if (!parts.getOrDefault(part, "").contains(plain(words))) tell("the document does not say so");
     try {
       body.accept(this);
@@ -65,12 +70,13 @@ final class Sentences {
     }
   }
 
-  /** Whether all answers were as due, and each promise and each part of the terms had a test. */
+  /** Whether all answers were as due, and each word of the promises and the terms had a test that names it. */
   boolean hold() {
     sentence = "the whole document";
-    for (String part : parts.keySet()) {
-      if ((part.startsWith("Promise ") || part.startsWith("Terms ")) && !tested.contains(part)) tell("no test of " + part);
-    }
+    left.forEach((part, text) -> {
+      String words = text.replaceAll("[^\\p{Alnum}]+", " ").trim();
+      if (!words.isEmpty()) tell("no test of " + part + " names: " + words);
+    });
     String all = tests + " sentences";
     System.out.println(wrong == 0 ? "EdgeTest: " + all + " hold" : "EdgeTest: " + wrong + " answers of " + all + " are not as due");
     return wrong == 0;
