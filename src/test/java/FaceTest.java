@@ -1,3 +1,5 @@
+import java.io.PrintWriter;
+import java.io.StringWriter;
 import java.lang.reflect.Constructor;
 import java.lang.reflect.Field;
 import java.lang.reflect.Method;
@@ -6,29 +8,38 @@ import java.nio.file.Files;
 import java.nio.file.Path;
 import java.util.ArrayList;
 import java.util.List;
+import java.util.Map;
 import java.util.Set;
+import java.util.TreeMap;
 import java.util.TreeSet;
 import java.util.regex.Matcher;
 import java.util.regex.Pattern;
+import java.util.spi.ToolProvider;
 
 /** The class has the document's face and no other, and keeps to what LANGUAGE.md leaves of Java. */
 public final class FaceTest {
   private static final Path SOURCE = Path.of("src/main/java/DivisionHall.java");
-  private static final String[] FACE = {
-    "int member()", "boolean shift(int,int,int,int,int)", "boolean view(int,int)", "int of(int,int)", "int look(int)",
-    "int feed(int,int,int,int,int)", "boolean end(int)", "boolean rule(int)", "int fault(int)", "int carries(int,int)",
-    "int leasts(int,int)", "int least(int,int,int)", "long power(int,int,int)", "int odd(int,int)", "int worth(int,int,int)",
-    "int trade(int,int)", "int days(int,int,int,int,int)", "boolean wish(int,int)", "int support(int,int)",
-    "int agenda(int,int,boolean)", "int through(int,int,int,boolean,int)", "int best(int,int)", "boolean line(int,int)",
-    "int coalition(int,int)", "boolean value(int,int,int)", "int deal(int,int,int,boolean,int)"};
+  private static final Path DOCUMENT = Path.of("../shared/DOC.md");
+  private static final int DEEPEST = 8;
   private static final Set<String> LIBRARY = Set.of("Arrays.fill", "Arrays.copyOf", "Arrays.copyOfRange", "System.arraycopy",
     "Integer.bitCount", "Math.max", "Math.min", "Math.abs");
   private static int wrong = 0;
+  /** The methods that the document's face names, as "int of(int,int)". */
+  private static final Set<String> FACE = new TreeSet<>();
 
   private static void check(boolean good, String what) {
     if (good) return;
     wrong++;
     System.out.println("FaceTest: " + what);
+  }
+
+  private static void readFace() throws Exception {
+    Pattern method = Pattern.compile("    public (\\w+ \\w+)\\((.*)\\);");
+    for (String line : Files.readAllLines(DOCUMENT)) {
+      Matcher m = method.matcher(line);
+      if (m.matches()) FACE.add(m.group(1) + "(" + m.group(2).replaceAll(" \\w+(, |$)", "$1").replace(", ", ",") + ")");
+    }
+    check(FACE.size() == 26, "the document's face has 26 methods, read were " + FACE);
   }
 
   private static String signature(Method m) {
@@ -49,7 +60,7 @@ public final class FaceTest {
       if (Modifier.isPublic(m.getModifiers()) && !Modifier.isStatic(m.getModifiers())) open.add(signature(m));
       else check(Modifier.isPrivate(m.getModifiers()), "private: " + m);
     }
-    check(open.equals(new TreeSet<>(List.of(FACE))), "the public methods are " + open);
+    check(open.equals(FACE), "the public methods are " + open);
     for (Field f : c.getDeclaredFields()) check(f.getName().equals("NONE") || Modifier.isPrivate(f.getModifiers()), "private: " + f);
     int none = Modifier.PUBLIC | Modifier.STATIC | Modifier.FINAL;
     check(c.getDeclaredField("NONE").getModifiers() == none && c.getDeclaredField("NONE").getType() == int.class, "NONE");
@@ -118,7 +129,53 @@ public final class FaceTest {
     }
   }
 
+  /** What the compiled classes call of one another: "Reader.emit" and its like. */
+  private static Map<String, Set<String>> calls() {
+    List<String> args = new ArrayList<>(List.of("-p", "-c", "-cp", System.getProperty("java.class.path"), "DivisionHall"));
+    for (Class<?> c : DivisionHall.class.getDeclaredClasses()) args.add(c.getName());
+    StringWriter out = new StringWriter();
+    int code = ToolProvider.findFirst("javap").orElseThrow().run(new PrintWriter(out), new PrintWriter(System.err), args.toArray(new String[0]));
+    check(code == 0, "javap reads the classes");
+    Map<String, Set<String>> calls = new TreeMap<>();
+    String owner = "", from = "";
+    for (String line : out.toString().split("\n")) {
+      Matcher head = Pattern.compile(".*\\bclass ([\\w$]+) \\{").matcher(line);
+      Matcher method = Pattern.compile("  \\S.*?([\\w$]+)\\(.*\\);").matcher(line);
+      Matcher call = Pattern.compile(".*\\binvoke\\w+ .*// Method (?:([\\w$]+)\\.)?\"?([\\w$<>]+)\"?:.*").matcher(line);
+      if (head.matches()) owner = head.group(1);
+      else if (method.matches()) {
+        from = owner + "." + (method.group(1).equals(owner) ? "<init>" : method.group(1));
+        calls.put(from, new TreeSet<>());
+      } else if (call.matches()) calls.get(from).add((call.group(1) == null ? owner : call.group(1)) + "." + call.group(2));
+    }
+    return calls;
+  }
+
+  /** How many methods of the class stand open at most, this one counted. */
+  private static int depth(String method, Map<String, Set<String>> calls, List<String> open) {
+    if (open.contains(method)) {
+      check(false, "no method comes back to itself: " + open + " " + method);
+      return 0;
+    }
+    List<String> now = new ArrayList<>(open);
+    now.add(method);
+    int deepest = 0;
+    for (String next : calls.get(method)) if (calls.containsKey(next)) deepest = Math.max(deepest, depth(next, calls, now));
+    return deepest + 1;
+  }
+
+  private static void depths() {
+    Map<String, Set<String>> calls = calls();
+    check(calls.size() > 100 && calls.get("DivisionHall.rule").size() > 2, "the calls could be read");
+    for (String method : calls.keySet()) {
+      int depth = depth(method, calls, List.of());
+      check(depth <= DEEPEST, "calls go at most " + DEEPEST + " deep: " + method + " goes " + depth);
+    }
+  }
+
   public static void main(String[] args) throws Exception {
+    readFace();
+    depths();
     face();
     classes();
     String source = Files.readString(SOURCE);
