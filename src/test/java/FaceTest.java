@@ -1,5 +1,3 @@
-import java.io.PrintWriter;
-import java.io.StringWriter;
 import java.lang.reflect.Constructor;
 import java.lang.reflect.Field;
 import java.lang.reflect.Method;
@@ -10,11 +8,9 @@ import java.util.ArrayList;
 import java.util.List;
 import java.util.Map;
 import java.util.Set;
-import java.util.TreeMap;
 import java.util.TreeSet;
 import java.util.regex.Matcher;
 import java.util.regex.Pattern;
-import java.util.spi.ToolProvider;
 
 /** The class has the document's face and no other, and keeps to what LANGUAGE.md leaves of Java. */
 public final class FaceTest {
@@ -129,28 +125,6 @@ public final class FaceTest {
     }
   }
 
-  /** What the compiled classes call of one another: "Reader.emit" and its like. */
-  private static Map<String, Set<String>> calls() {
-    List<String> args = new ArrayList<>(List.of("-p", "-c", "-cp", System.getProperty("java.class.path"), "DivisionHall"));
-    for (Class<?> c : DivisionHall.class.getDeclaredClasses()) args.add(c.getName());
-    StringWriter out = new StringWriter();
-    int code = ToolProvider.findFirst("javap").orElseThrow().run(new PrintWriter(out), new PrintWriter(System.err), args.toArray(new String[0]));
-    check(code == 0, "javap reads the classes");
-    Map<String, Set<String>> calls = new TreeMap<>();
-    String owner = "", from = "";
-    for (String line : out.toString().split("\n")) {
-      Matcher head = Pattern.compile(".*\\bclass ([\\w$]+) \\{").matcher(line);
-      Matcher method = Pattern.compile("  \\S.*?([\\w$]+)\\(.*\\);").matcher(line);
-      Matcher call = Pattern.compile(".*\\binvoke\\w+ .*// Method (?:([\\w$]+)\\.)?\"?([\\w$<>]+)\"?:.*").matcher(line);
-      if (head.matches()) owner = head.group(1);
-      else if (method.matches()) {
-        from = owner + "." + (method.group(1).equals(owner) ? "<init>" : method.group(1));
-        calls.put(from, new TreeSet<>());
-      } else if (call.matches()) calls.get(from).add((call.group(1) == null ? owner : call.group(1)) + "." + call.group(2));
-    }
-    return calls;
-  }
-
   /** How many methods of the class stand open at most, this one counted. */
   private static int depth(String method, Map<String, Set<String>> calls, List<String> open) {
     if (open.contains(method)) {
@@ -164,9 +138,9 @@ public final class FaceTest {
     return deepest + 1;
   }
 
-  private static void depths() {
-    Map<String, Set<String>> calls = calls();
-    check(calls.size() > 100 && calls.get("DivisionHall.rule").size() > 2, "the calls could be read");
+  private static void depths() throws Exception {
+    Map<String, Set<String>> calls = Calls.of(SOURCE);
+    check(calls.size() > 100 && calls.get("DivisionHall.rule(int)").size() > 2, "the calls could be read");
     for (String method : calls.keySet()) {
       int depth = depth(method, calls, List.of());
       check(depth <= DEEPEST, "calls go at most " + DEEPEST + " deep: " + method + " goes " + depth);
